@@ -1,16 +1,35 @@
 /**
- * Recoveries that find old cells behind a torn write. Keys are chosen so that the seal which an
- * entry of new and old cells needs is the very int that stands there: then only the other rules of
- * a sound entry can tell it from a true one.
+ * A test of its own for each sentence on recoveries that find old cells behind a torn write. Keys
+ * are chosen so that the seal which an entry of new and old cells needs is the very int that stands
+ * there: then only the other rules of a sound entry can tell it from a true one.
+ *
+ * An account or amount out of its range has no test here, for no run of calls brings it where only
+ * that rule could tell: old cells are those of a torn entry of 4 legs in cell 6 or 7 of a block,
+ * where the next entry begins, too, so its accounts are read as accounts and its amounts as amounts.
+ * Only behind an entry of 2 legs is the last amount read as an account, with cells 0 behind it, and
+ * for no amount but 0 is that entry's seal 0.
  */
 public final class StaleBlockTests {
   private static final int FACTOR = 16777619;
   private static int wrong = 0;
+  private static int tests = 0;
+  private static String sentence = "";
+
+  private static void test(String words, Runnable body) {
+    tests++;
+    sentence = words;
+    try {
+      body.run();
+    } catch (RuntimeException | StackOverflowError thrown) {
+      wrong++;
+      System.out.println("[" + sentence + "] a call threw " + thrown);
+    }
+  }
 
   private static void due(String what, int got, int want) {
     if (got != want) {
       wrong++;
-      System.out.println(what + " answered " + got + ", due is " + want);
+      System.out.println("[" + sentence + "] " + what + " answered " + got + ", due is " + want);
     }
   }
 
@@ -138,11 +157,18 @@ public final class StaleBlockTests {
     return oldKey(new int[] {3, -70, 4, 70}, new int[] {3, -70, 4, 70, 0, legs, 0, -legs}, 2);
   }
 
-  private static void numberOfLegsIsLookedAt() {
-    int[] numbers = {0, 1, 2, 3, 4, 5, 6, 100, 9999, -1, -9999};
-    for (int legs : numbers) {
-      due(legs + " legs of 0", zerosBehind(legs).recover(), legs >= 2 && legs <= 4 ? 3 : 2);
-    }
+  private static void tooFewLegs() {
+    int[] numbers = {1, 0, -1, -2, -9999};
+    for (int legs : numbers) due(legs + " legs of 0", zerosBehind(legs).recover(), 2);
+  }
+
+  private static void twoToFourLegs() {
+    for (int legs = 2; legs <= 4; legs++) due(legs + " legs of 0", zerosBehind(legs).recover(), 3);
+  }
+
+  private static void tooManyLegs() {
+    int[] numbers = {5, 6, 7, 100, 9999};
+    for (int legs : numbers) due(legs + " legs of 0", zerosBehind(legs).recover(), 2);
   }
 
   private static void twoOfOneKey() {
@@ -171,6 +197,16 @@ public final class StaleBlockTests {
     due("the sync begins in block 1", x.sync(), 1);
   }
 
+  /** The cells behind the entry's legs, its seal 5 and a 0, look like one leg more. */
+  private static void sealIsNoLeg() {
+    SealedLedger x = rich();
+    int key = keyFor(5, 0, 1, -3, 2, 3);
+    due("an entry with the seal 5", commit(x, key, 1, -3, 2, 3), 0);
+    due("a leg of 0 of account 5, too", commit(x, key, 1, -3, 2, 3, 5, 0), SealedLedger.KEY);
+    x.drop();
+    due("the same legs", commit(x, key, 1, -3, 2, 3), 0);
+  }
+
   /** Two entries end in cell 14, so how many legs and the key are new, and the legs are old. */
   private static void oldLegs() {
     SealedLedger x = rich();
@@ -188,7 +224,7 @@ public final class StaleBlockTests {
     due("the new legs", commit(x, key, 1, -1, 2, 1), SealedLedger.KEY);
   }
 
-  /** An old amount is read as 4 legs, of which the last cell would be cell 512. */
+  /** An old amount is read as 4 legs of 0 behind a seal 0, and their seal would be cell 512. */
   private static void beyondTheDisk() {
     SealedLedger x = rich();
     int seal = 0;
@@ -197,7 +233,7 @@ public final class StaleBlockTests {
       seal = mix(seal, leafOf(1000 + i, 0, 0, 0, 0, 0, 0, 0, 0));
     }
     x.sync();
-    tear(x, 45, keyFor(6, seal, 3, -70, 4, 70), 3, -70, 4, 70, 6, 4, 5, -4);
+    tear(x, 45, keyFor(0, seal, 3, -70, 4, 70), 3, -70, 4, 70, 0, 4, 0, -4);
     cover(x, 45, 7, 0, 0, 0, 0);
     due("cell 502 is read as 4 legs", x.cell(502), 4);
     due("entries up to cell 501", x.recover(), 46);
@@ -208,16 +244,20 @@ public final class StaleBlockTests {
   }
 
   public static void main(String[] args) {
-    due("unmix", unmix(mix(12345, -678)), 12345 * FACTOR - 678);
-    soundOfOldAndNew();
-    soundOfThree();
-    sumIsLookedAt();
-    sealIsLookedAt();
-    numberOfLegsIsLookedAt();
-    twoOfOneKey();
-    tornButWhole();
-    oldLegs();
-    beyondTheDisk();
+    test("the inverse of MIX", () -> due("unmix", unmix(mix(12345, -678)), 12345 * FACTOR - 678));
+    test("RECOVERY: as long as one is SOUND, of old and new cells", StaleBlockTests::soundOfOldAndNew);
+    test("RECOVERY: as long as one is SOUND, of three legs", StaleBlockTests::soundOfThree);
+    test("RECOVERY: as long as one is SOUND, of old legs", StaleBlockTests::oldLegs);
+    test("RECOVERY: as long as one is SOUND, of cells 0", StaleBlockTests::tornButWhole);
+    test("SOUND: 2 to 4 legs, too few", StaleBlockTests::tooFewLegs);
+    test("SOUND: 2 to 4 legs", StaleBlockTests::twoToFourLegs);
+    test("SOUND: 2 to 4 legs, too many", StaleBlockTests::tooManyLegs);
+    test("SOUND: with sum 0", StaleBlockTests::sumIsLookedAt);
+    test("SOUND: all of it before cell 512", StaleBlockTests::beyondTheDisk);
+    test("SOUND: its seal is right", StaleBlockTests::sealIsLookedAt);
+    test("5: KEY: other legs, the seal is none", StaleBlockTests::sealIsNoLeg);
+    test("5: the first entry of that key (there may be more behind a recovery)", StaleBlockTests::twoOfOneKey);
+    System.out.println(tests + " sentences");
     System.out.println(wrong == 0 ? "all answers are as due" : wrong + " answers are not as due");
     if (wrong != 0) System.exit(1);
   }
