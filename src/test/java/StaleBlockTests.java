@@ -186,6 +186,14 @@ public final class StaleBlockTests {
     due("its cells behind those of 9", x.cell(23), 2);
   }
 
+  private static void leastOfOneKey() {
+    SealedLedger x = zerosBehind(2);
+    due("three entries, the first and the last of key 0", x.recover(), 3);
+    due("find(0)", x.find(0), 0);
+    due("the last has no other key", x.cell(15), 0);
+    due("the first is not the last", x.leaf(0) != x.leaf(2) ? 1 : 0, 1);
+  }
+
   /** The cells that were not written are 0 as they should be. */
   private static void tornButWhole() {
     SealedLedger x = rich();
@@ -257,6 +265,7 @@ public final class StaleBlockTests {
     test("SOUND: its seal is right", StaleBlockTests::sealIsLookedAt);
     test("5: KEY: other legs, the seal is none", StaleBlockTests::sealIsNoLeg);
     test("5: the first entry of that key (there may be more behind a recovery)", StaleBlockTests::twoOfOneKey);
+    test("14: The least number of an entry with a key", StaleBlockTests::leastOfOneKey);
     System.out.println(tests + " sentences");
     System.out.println(wrong == 0 ? "all answers are as due" : wrong + " answers are not as due");
     if (wrong != 0) System.exit(1);
