@@ -29,7 +29,6 @@ public final class SealedLedger {
     private final int[] limits;
     private final Draft draft;
     private final Log log;
-    private final Tree tree;
     private final Disk disk;
     private final Pad proof;
     private boolean running;
@@ -38,7 +37,6 @@ public final class SealedLedger {
         limits = new int[ACCOUNTS];
         draft = new Draft();
         log = new Log();
-        tree = new Tree(log);
         disk = new Disk();
         proof = new Pad();
         running = true;
@@ -145,7 +143,7 @@ public final class SealedLedger {
     }
 
     public int head(int n) {
-        return n < 0 || n > log.syncedSize() ? 0 : tree.headOf(n);
+        return n < 0 || n > log.syncedSize() ? 0 : Tree.headOf(log, n);
     }
 
     public int prove(int i, int n) {
@@ -153,7 +151,7 @@ public final class SealedLedger {
             return NONE;
         }
         proof.clear();
-        tree.addInclusion(proof, i, n);
+        Tree.addInclusion(log, proof, i, n);
         return proof.length();
     }
 
@@ -162,7 +160,7 @@ public final class SealedLedger {
             return NONE;
         }
         proof.clear();
-        tree.addConsistency(proof, m, n);
+        Tree.addConsistency(log, proof, m, n);
         return proof.length();
     }
 
@@ -513,62 +511,56 @@ public final class SealedLedger {
         }
     }
 
-    /** The hashes over the log's entries. Each level down makes the row shorter; levels bounds it. */
+    /** The hashes over a log's entries. Each level down makes the row shorter; levels bounds it. */
     private static final class Tree {
-        private final Log log;
-
-        Tree(Log log) {
-            this.log = log;
+        static int headOf(Log log, int n) {
+            return n == 0 ? mix(2, 0) : hash(log, 0, n, LEVELS);
         }
 
-        int headOf(int n) {
-            return n == 0 ? mix(2, 0) : hash(0, n, LEVELS);
+        static void addInclusion(Log log, Pad pad, int i, int n) {
+            inclusion(log, pad, i, 0, n, LEVELS);
         }
 
-        void addInclusion(Pad pad, int i, int n) {
-            inclusion(pad, i, 0, n, LEVELS);
+        static void addConsistency(Log log, Pad pad, int m, int n) {
+            consistency(log, pad, m, 0, n, true, LEVELS);
         }
 
-        void addConsistency(Pad pad, int m, int n) {
-            consistency(pad, m, 0, n, true, LEVELS);
-        }
-
-        private int hash(int first, int n, int levels) {
+        private static int hash(Log log, int first, int n, int levels) {
             if (n <= 1 || levels <= 0) {
                 return log.leafOf(first);
             }
             int k = split(n);
-            return node(hash(first, k, levels - 1), hash(first + k, n - k, levels - 1));
+            return node(hash(log, first, k, levels - 1), hash(log, first + k, n - k, levels - 1));
         }
 
-        private void inclusion(Pad pad, int i, int first, int n, int levels) {
+        private static void inclusion(Log log, Pad pad, int i, int first, int n, int levels) {
             if (n <= 1 || levels <= 0) {
                 return;
             }
             int k = split(n);
             if (i < k) {
-                inclusion(pad, i, first, k, levels - 1);
-                pad.add(hash(first + k, n - k, levels - 1));
+                inclusion(log, pad, i, first, k, levels - 1);
+                pad.add(hash(log, first + k, n - k, levels - 1));
             } else {
-                inclusion(pad, i - k, first + k, n - k, levels - 1);
-                pad.add(hash(first, k, levels - 1));
+                inclusion(log, pad, i - k, first + k, n - k, levels - 1);
+                pad.add(hash(log, first, k, levels - 1));
             }
         }
 
-        private void consistency(Pad pad, int m, int first, int n, boolean own, int levels) {
+        private static void consistency(Log log, Pad pad, int m, int first, int n, boolean own, int levels) {
             if (m == n || levels <= 0) {
                 if (!own) {
-                    pad.add(hash(first, n, levels));
+                    pad.add(hash(log, first, n, levels));
                 }
                 return;
             }
             int k = split(n);
             if (m <= k) {
-                consistency(pad, m, first, k, own, levels - 1);
-                pad.add(hash(first + k, n - k, levels - 1));
+                consistency(log, pad, m, first, k, own, levels - 1);
+                pad.add(hash(log, first + k, n - k, levels - 1));
             } else {
-                consistency(pad, m - k, first + k, n - k, false, levels - 1);
-                pad.add(hash(first, k, levels - 1));
+                consistency(log, pad, m - k, first + k, n - k, false, levels - 1);
+                pad.add(hash(log, first, k, levels - 1));
             }
         }
     }
@@ -655,7 +647,7 @@ public final class SealedLedger {
         }
 
         boolean showsInclusion(int leaf, int i, int n, int head) {
-            return count == inclusionLength(i, n) && shownAbove(leaf, i, n, count) == head;
+            return count == inclusionLength(i, n) && shownAbove(this, leaf, i, n, count) == head;
         }
 
         boolean showsConsistency(int old, int m, int head, int n) {
@@ -665,43 +657,43 @@ public final class SealedLedger {
                 return false;
             }
             int base = own ? old : intAt(0);
-            return shownOld(base, m, n, count) == old && shownNew(base, m, n, count) == head;
+            return shownOld(this, base, m, n, count) == old && shownNew(this, base, m, n, count) == head;
         }
 
         /** The hash that the leaf and the pad's first ints, so many as used, show. */
-        private int shownAbove(int leaf, int i, int n, int used) {
+        private static int shownAbove(Pad pad, int leaf, int i, int n, int used) {
             if (n <= 1 || used <= 0) {
                 return leaf;
             }
             int k = split(n);
-            int last = intAt(used - 1);
+            int last = pad.intAt(used - 1);
             if (i < k) {
-                return node(shownAbove(leaf, i, k, used - 1), last);
+                return node(shownAbove(pad, leaf, i, k, used - 1), last);
             }
-            return node(last, shownAbove(leaf, i - k, n - k, used - 1));
+            return node(last, shownAbove(pad, leaf, i - k, n - k, used - 1));
         }
 
-        private int shownOld(int base, int m, int n, int used) {
+        private static int shownOld(Pad pad, int base, int m, int n, int used) {
             if (m == n || used <= 0) {
                 return base;
             }
             int k = split(n);
             if (m <= k) {
-                return shownOld(base, m, k, used - 1);
+                return shownOld(pad, base, m, k, used - 1);
             }
-            return node(intAt(used - 1), shownOld(base, m - k, n - k, used - 1));
+            return node(pad.intAt(used - 1), shownOld(pad, base, m - k, n - k, used - 1));
         }
 
-        private int shownNew(int base, int m, int n, int used) {
+        private static int shownNew(Pad pad, int base, int m, int n, int used) {
             if (m == n || used <= 0) {
                 return base;
             }
             int k = split(n);
-            int last = intAt(used - 1);
+            int last = pad.intAt(used - 1);
             if (m <= k) {
-                return node(shownNew(base, m, k, used - 1), last);
+                return node(shownNew(pad, base, m, k, used - 1), last);
             }
-            return node(last, shownNew(base, m - k, n - k, used - 1));
+            return node(last, shownNew(pad, base, m - k, n - k, used - 1));
         }
 
         private static int inclusionLength(int i, int n) {
